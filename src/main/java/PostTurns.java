@@ -425,7 +425,6 @@ public final class PostTurns {
             if (i < 0 || at >= from.length) break;
             readFour(card, from, at);
             came++;
-            if (at + 4 > from.length) break;
         }
         return came;
     }

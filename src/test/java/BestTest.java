@@ -235,6 +235,7 @@ public final class BestTest {
 
     /** What is judged is what the same orders bring when the turn is done. */
     private static void asIfDone() {
+        ties();
         int[][] rows = {{0, 1, 1}, {0, 1, 6}, {0, 0, 0}, {1, 1, 7}, {1, 1, 2}, {1, 2, 0}, {4, 1, 19}, {4, 1, 21}, {4, 2, 1}};
         for (int row = 0; row < 27; row++) {
             int a = row / 9, b = 3 + row / 3 % 3, c = 6 + row % 3;
@@ -253,6 +254,23 @@ public final class BestTest {
         int most = Integer.MIN_VALUE;
         for (int row = 0; row < 27; row++) most = Math.max(most, x.judge(row / 9 * 100 + row / 3 % 3 * 10 + row % 3));
         DUE.is("best", x.best(), most);
+    }
+
+    /** Where strengths are alike the TIE of the told way decides, of a way that stands as much as of an order. */
+    private static void ties() {
+        for (int won = 0; won < 2; won++) {
+            PostTurns x = two();
+            x.cell(25, 0, 9);
+            x.piece(0, 26, 3);
+            x.card(1, 1, 0);
+            x.order(0, 2, 1, 25);
+            Due.rule(x, 1, 0, won == 1 ? "d=25&p=4" : "p=2");
+            x.way(4, 1, 25);
+            x.way(4, 1, 27);
+            DUE.is("by the tie", x.judge(0), won == 1 ? 111 : 103);
+            DUE.is("another cell", x.judge(1), 103);
+            DUE.is("best", x.best(), won == 1 ? 111 : 103);
+        }
     }
 
     private static PostTurns ready() {

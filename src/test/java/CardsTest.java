@@ -47,6 +47,7 @@ public final class CardsTest {
         DUE.is("way 10", x.card(0, 0, 10), -1);
         x.drops(1, -1);
         DUE.is("for one who dropped without a proxy", x.card(0, 1, 0), -1);
+        DUE.is("that none is no holder", x.card(-1, 1, 0), -1);
         x.drops(0, 1);
         DUE.is("its proxy", x.card(1, 0, 9), 0);
         DUE.is("not its proxy", x.card(2, 0, 0), -1);
@@ -96,12 +97,20 @@ public final class CardsTest {
         x.card(0, 0, 0);
         // Day 67: of the turns not done the first that is due then or behind is 9, on day 70.
         ofTurn(x, 8, 9, 1, 1);
-        for (int i = 0; i < 3; i++) x.days(60);
-        x.card(0, 0, 0);
-        DUE.is("no turn is left", x.ofCard(9, 3), -2);
-        DUE.is("not late", x.ofCard(9, 4), 0);
-        DUE.is("counts for none", x.ofCard(9, 5), 0);
-        DUE.is("in", x.ofCard(9, 2), 247);
+        for (int i = 0; i < 2; i++) x.days(60);
+        x.days(22);
+        x.card(0, 0, 1);
+        ofTurn(x, 9, 29, 1, 1);
+        x.card(0, 0, 2);
+        DUE.is("no turn is left", x.ofCard(10, 3), -2);
+        DUE.is("not late", x.ofCard(10, 4), 0);
+        DUE.is("counts for none", x.ofCard(10, 5), 0);
+        DUE.is("in", x.ofCard(10, 2), 211);
+        x.order(10, 0, 0, 0);
+        x.turn(3, 29, 0);
+        DUE.is("nor a standing order on it", x.orderOf(0), -1);
+        for (int t = 1; t < 29; t++) x.done(0);
+        DUE.is("turn 29 is not done yet", x.orderOf(0), -1);
     }
 
     /** LATE: of the turn it was sent in, as known on the day when it is in; t and h alone are so. */

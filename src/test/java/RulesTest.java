@@ -180,6 +180,9 @@ public final class RulesTest {
     }
 
     private static void lines() {
+        StringBuilder most = new StringBuilder("-1");
+        for (int i = 0; i < 79; i++) most.append("+1");
+        worth(most.toString(), 78);
         worth("0?1;0?2;3", 3);
         worth("0?1;1?2;3", 2);
         worth("5;6", 5);
