@@ -22,6 +22,7 @@ public final class ModelTest {
         int runs = args.length > 0 ? Integer.parseInt(args[0]) : 300;
         long from = args.length > 1 ? Long.parseLong(args[1]) : 1;
         for (long seed = from; seed < from + runs && differing < 3; seed++) new ModelTest(seed).play(seed);
+        for (long seed = from; seed < from + runs / 15 && differing < 3; seed++) new ModelTest(-seed).brim(seed);
         faults(20000);
         DUE.end();
     }
@@ -71,6 +72,61 @@ public final class ModelTest {
             DUE.holds("seed " + seed + " threw behind " + said.get(said.size() - 1), false);
         }
         DUE.holds("seed " + seed, differing == 0);
+    }
+
+    /** One game with all the holders, pieces, rules, cards and orders that there is room for, and turns done in it. */
+    private void brim(long seed) {
+        both("game(5)", x.game(5), model.game(5));
+        for (int h = 0; h < 13; h++) both("holder(0, " + h + ")", x.holder(0, h), model.holder(0, h));
+        for (int p = 0; p < 41; p++) {
+            int c = (p * 5 + (int) seed) % 48, force = 1 + upTo(4);
+            both("piece(" + p % 12 + ", " + c + ", " + force + ")", x.piece(p % 12, c, force), model.piece(p % 12, c, force));
+        }
+        for (int r = 0; r < 21; r++) {
+            String text = fixed();
+            int what = r % 5, from = upTo(30);
+            Due.feed(x, text);
+            for (int i = 0; i < text.length(); i++) model.feed(1, text.charAt(i));
+            both("rule(" + what + ", " + from + ") of " + text, x.rule(what, from), model.rule(what, from));
+        }
+        for (int k = 0; k < 2000 && model.count(8) < 300 && differing < 3; k++) {
+            if (upTo(4) == 0) order();
+            else manyOrders();
+            if (upTo(6) == 0 && model.count(7) < 120) week();
+        }
+        while (model.count(7) < 150 && differing < 3) card(upTo(12), upTo(10));
+        DUE.is("orders of " + seed, x.count(8), 300);
+        card(0, 0);
+        order();
+        manyOrders();
+        for (int k = 0; k < 60 && differing < 3; k++) {
+            week();
+            for (int p = 39; p < 41; p++) both("orderOf(" + p + ")", x.orderOf(p), model.orderOf(p));
+            both("check(0)", x.check(0), model.check(0));
+            if (k % 8 == 0) ways();
+            if (k % 8 == 0) again();
+        }
+        DUE.is("turns of " + seed, x.ofGame(0, 0), 30);
+        DUE.holds("brim of " + seed, differing == 0);
+    }
+
+    private void card(int holder, int way) {
+        both("card(" + holder + ", " + holder + ", " + way + ")", x.card(holder, holder, way), model.card(holder, holder, way));
+    }
+
+    /** Orders read for the pieces of one holder, on a card of today. */
+    private void manyOrders() {
+        int holder = upTo(12);
+        card(holder, upTo(3));
+        int card = cardFor(holder), fours = 1 + upTo(4);
+        both("row(0, 0, " + 4 * fours + ")", x.row(0, 0, 4 * fours), model.row(0, 0, 4 * fours));
+        for (int k = 0; k < fours; k++) {
+            int p = holder + 12 * upTo(4), what = 1 + upTo(2);
+            put(0, 4 * k, p);
+            put(0, 4 * k + 1, what);
+            put(0, 4 * k + 2, what == 1 ? step(Math.min(p, 39)) : near(Math.min(p, 39)));
+        }
+        both("read(" + card + ", 0, 0, " + fours + ")", x.read(card, 0, 0, fours), model.read(card, 0, 0, fours));
     }
 
     private void both(String call, long got, long want) {
