@@ -92,7 +92,7 @@ public final class LanguageTest {
 
     private static void words(String file) {
         String code = file.replaceAll("(?s)/\\*.*?\\*/", " ").replaceAll("//[^\n]*", " ");
-        String[] out = {"throw", "throws", "try", "catch", "synchronized", "assert", "import", "package", "while",
+        String[] out = {"throw", "throws", "try", "catch", "synchronized", "assert", "import", "package",
             "native", "volatile", "System.out", "hashCode", "toString", "Exact", "static \\{"};
         for (String word : out) {
             DUE.holds("no " + word, !Pattern.compile("(?<!\\w)" + word + "(?!\\w)").matcher(code).find());
