@@ -907,8 +907,9 @@ public final class PostTurns {
             gone = goneAhead[t];
         }
 
+        /** One that is GONE is in no cell (its CELL tells only where it was), so one GONE then and now is as it was. */
         boolean isElsewhere() {
-            return cell != cellThen || gone != goneThen;
+            return gone || goneThen ? gone != goneThen : cell != cellThen;
         }
     }
 

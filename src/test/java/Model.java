@@ -659,17 +659,21 @@ final class Model {
         while (g.turn() < turns) doOne(game);
         int n = 0;
         for (int p : then.cell.keySet()) {
-            if (!then.cell.get(p).equals(g.now().cell.get(p)) || !then.gone.get(p).equals(g.now().gone.get(p))) n++;
+            if (place(then, p) != place(g.now(), p)) n++;
         }
         return n;
+    }
+
+    /** Where a piece is; NOT: nowhere, it is gone. */
+    private static int place(State s, int p) {
+        return s.gone.get(p) ? NOT : s.cell.get(p);
     }
 
     int was(int p, int t) {
         if (!isPiece(p)) return BAD;
         Game g = games.get(gameOf(p));
         if (!in(t, 0, g.turn() - 1)) return BAD;
-        State s = g.states.get(t + 1);
-        return s.gone.get(p) ? NOT : s.cell.get(p);
+        return place(g.states.get(t + 1), p);
     }
 
     // ---- sheets

@@ -22,6 +22,7 @@ public final class ModelTest {
         int runs = args.length > 0 ? Integer.parseInt(args[0]) : 300;
         long from = args.length > 1 ? Long.parseLong(args[1]) : 1;
         for (long seed = from; seed < from + runs && differing < 3; seed++) new ModelTest(seed).play(seed);
+        for (long seed = from; seed < from + runs && differing < 3; seed++) new ModelTest(seed << 32).crowd(seed);
         for (long seed = from; seed < from + runs / 15 && differing < 3; seed++) new ModelTest(-seed).brim(seed);
         faults(20000);
         DUE.end();
@@ -72,6 +73,63 @@ public final class ModelTest {
             DUE.holds("seed " + seed + " threw behind " + said.get(said.size() - 1), false);
         }
         DUE.holds("seed " + seed, differing == 0);
+    }
+
+    /** Many pieces in few cells: many go, and by rules made between AGAINS others go, in other cells. */
+    private void crowd(long seed) {
+        int holders = 2 + upTo(2), pieces = 8 + upTo(6);
+        both("game(" + seed + ")", x.game((int) seed), model.game((int) seed));
+        for (int h = 0; h < holders; h++) both("holder(0, 9)", x.holder(0, 9), model.holder(0, 9));
+        for (int p = 0; p < pieces; p++) {
+            int h = upTo(holders), c = 6 * upTo(4) + upTo(4), force = upTo(2) == 0 ? 1 : 1 + upTo(9);
+            both("piece(" + h + ", " + c + ", " + force + ")", x.piece(h, c, force), model.piece(h, c, force));
+        }
+        for (int turns = 3 + upTo(4); turns > 0 && differing < 3; turns--) {
+            for (int h = 0; h < holders; h++) card(h, upTo(9) == 0 ? upTo(10) : 0);
+            for (int p = 0; p < model.count(2); p++) crowdOrders(p);
+            both("days(7)", x.days(7), model.days(7));
+            both("done(0)", x.done(0), model.done(0));
+        }
+        for (int k = 0; k < 5 && differing < 3; k++) {
+            crowdRule();
+            int t = upTo(3) == 0 ? upTo(3) : 0;
+            both("again(0, " + t + ")", x.again(0, t), model.again(0, t));
+            lookAtAll();
+        }
+        DUE.holds("crowd of " + seed, differing == 0);
+    }
+
+    /** Some MOVES and HELPS, now and then with an if or standing: one to where the piece may be only by AGAIN is the last. */
+    private void crowdOrders(int p) {
+        int card = cardFor(Math.max(0, model.ofPiece(p, 0)));
+        for (int k = upTo(4); k >= 0; k--) {
+            int what = upTo(6) == 0 ? 2 : 1, at = what == 2 ? near(p) : k == 0 ? 6 * upTo(4) + upTo(4) : step(p);
+            both("order(" + card + ", " + p + ", " + what + ", " + at + ")", x.order(card, p, what, at),
+                model.order(card, p, what, at));
+            if (upTo(7) == 0) kind();
+        }
+    }
+
+    /** A rule by which some pieces may not go, some goals may not be, or others are first. */
+    private void crowdRule() {
+        String[] texts = {"p-" + upTo(12), "p%" + (2 + upTo(3)), "!(d=" + (6 * upTo(4) + upTo(4)) + ")", "t-" + upTo(4), "z", "1", "h",
+            "o-" + upTo(3), "-p", "f<" + (1 + upTo(5))};
+        String text = texts[upTo(texts.length)];
+        for (int i = 0; i < text.length(); i++) both("feed(1, " + text.charAt(i) + ")", x.feed(1, text.charAt(i)),
+            model.feed(1, text.charAt(i)));
+        int use = upTo(4) == 0 ? upTo(5) : 0, from = upTo(2) == 0 ? upTo(3) : 0;
+        both("rule(" + use + ", " + from + ")", x.rule(use, from), model.rule(use, from));
+    }
+
+    /** All that a turn changes, of all pieces and holders. */
+    private void lookAtAll() {
+        for (int p = 0; p < model.count(2); p++) {
+            for (int w = 1; w < 6; w++) both("ofPiece(" + p + ", " + w + ")", x.ofPiece(p, w), model.ofPiece(p, w));
+            for (int t = 0; t < 3; t++) both("was(" + p + ", " + t + ")", x.was(p, t), model.was(p, t));
+        }
+        for (int h = 0; h < model.count(1); h++) {
+            for (int w = 1; w < 8; w++) both("ofHolder(" + h + ", " + w + ")", x.ofHolder(h, w), model.ofHolder(h, w));
+        }
     }
 
     /** One game with all the holders, pieces, rules, cards and orders that there is room for, and turns done in it. */

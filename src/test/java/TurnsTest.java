@@ -18,6 +18,8 @@ public final class TurnsTest {
         againByRules();
         againByOrders();
         againCounts();
+        againGone();
+        againBackAndForth();
         againAndDrops();
         againDeals();
         was();
@@ -460,6 +462,51 @@ public final class TurnsTest {
         x.holder(1, 0);
         x.piece(2, 20, 1);
         DUE.is("of its game alone", x.again(0, 0), 0);
+    }
+
+    /** One that is GONE ahead of AGAIN and behind it does not count, in whichever cell it went. */
+    private static void againGone() {
+        PostTurns x = made(3, 0, 0, 1, 1, 12, 2, 1, 1, 2, 2, 40, 1);
+        tell(x, 0, 1, 6);
+        next(x);
+        cards(x, 3);
+        tell(x, 1, 1, 6);
+        tell(x, 2, 1, 0);
+        next(x);
+        stands("gone in 6", x, -2, 0, 6, 0, 0, 0, 40, 0);
+        DUE.is("where it was", x.ofPiece(0, 1), 6);
+        Due.rule(x, 0, 0, "p");
+        DUE.is("gone in 6, gone in 0: none", x.again(0, 0), 0);
+        stands("gone in 0", x, -2, 0, 6, 0, 0, 0, 40, 0);
+        DUE.is("where it was", x.ofPiece(0, 1), 0);
+        DUE.is("it stayed in the first turn", x.was(0, 0), 0);
+        Due.rule(x, 0, 0, "1");
+        DUE.is("gone in 0, gone in 6: none", x.again(0, 0), 0);
+        DUE.is("where it was", x.ofPiece(0, 1), 6);
+        Due.rule(x, 0, 1, "p-1");
+        DUE.is("not gone, and one elsewhere", x.again(0, 0), 2);
+        stands("the one in 12 may not go", x, 6, 0, 12, 0, 0, 0, 40, 0);
+        Due.rule(x, 0, 0, "p");
+        DUE.is("gone in 0, and one elsewhere", x.again(0, 0), 2);
+        stands("gone in 0", x, -2, 0, 6, 0, 0, 0, 40, 0);
+    }
+
+    /** One that goes and comes back by AGAIN counts each time, in the same cell, too; and one there in another cell. */
+    private static void againBackAndForth() {
+        PostTurns x = made(2, 0, 0, 3, 1, 1, 2);
+        tell(x, 0, 1, 1);
+        next(x);
+        stands("gone in 1", x, 1, 0, -2, 0);
+        Due.rule(x, 0, 0, "0");
+        DUE.is("one elsewhere, one there in the cell where it was", x.again(0, 0), 2);
+        stands("both stay", x, 0, 0, 1, 0);
+        Due.rule(x, 0, 0, "1");
+        DUE.is("one elsewhere, one gone in the cell where it was", x.again(0, 0), 2);
+        stands("gone in 1", x, 1, 0, -2, 0);
+        DUE.is("as they were", x.again(0, 0), 0);
+        next(x);
+        DUE.is("gone a turn ahead, the moves stay", x.again(0, 1), 0);
+        DUE.is("gone then, too", x.again(0, 0), 0);
     }
 
     private static void againAndDrops() {
