@@ -10,6 +10,7 @@ public final class SheetsEdgesTest {
         byWhicheverPiece();
         noPiecesThere();
         whereOneWent();
+        allFortyAreSeen();
         sightOfTheTurnItIsIn();
         alikeRefusals();
         alikeInNoneAndInAll();
@@ -146,6 +147,23 @@ public final class SheetsEdgesTest {
         x.order(3, 2, 1, 8);
         x.turn(2, 0, 1);
         DUE.is("23: empty", x.orderOf(2), 3);
+    }
+
+    /** "PIECES 0 .. 39": each of forty is seen in its CELL, which is not EMPTY. */
+    private static void allFortyAreSeen() {
+        PostTurns x = new PostTurns();
+        x.game(0);
+        x.holder(0, 0);
+        for (int p = 0; p < 40; p++) x.piece(0, 47 - p, 1);
+        x.card(0, 0, 0);
+        for (int p = 0; p < 40; p++) {
+            DUE.is("27: piece " + p, x.sees(0, 47 - p), p);
+            DUE.is("4: it is there", x.cell(47 - p, 1, 1), -2);
+            x.order(0, p, 0, 0);
+            x.turn(2, 47 - p, 0);
+            DUE.is("23: its cell is not empty", x.orderOf(p), x.count(8) - 1);
+        }
+        for (int c = 0; c < 8; c++) DUE.is("27: none in cell " + c, x.sees(0, c), -2);
     }
 
     /** "(SIGHT of the TURN that the GAME is in, AS KNOWN TODAY)". */
