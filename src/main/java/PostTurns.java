@@ -801,7 +801,7 @@ public final class PostTurns {
             if (one.game != game || one.gone) continue;
             if ((held >>> one.cell & 1L) != 0L) return 1;
             held |= 1L << one.cell;
-            walled |= games[game].wall[one.cell];
+            if (games[game].wall[one.cell]) walled = true;
         }
         if (walled) return 2;
         for (int h = 0; h < holderCount; h++) {
